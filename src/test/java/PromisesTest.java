@@ -231,6 +231,10 @@ public final class PromisesTest {
         Check.seeFault("pour;", 2, 0);
         Check.seeFault("place abcdefghi;", 2, 6);
         Check.seeFault("place 3;", 2, 6);
+        Check.seeFault("place ;", 2, 6);
+        Check.seeFault("stuff sets 1 costs 1;", 2, 6);
+        Check.seeFault("place p;mould high 1 holds 1 at p;", 2, 14);
+        Check.seeFault("place a;place b;walk a shakes 1;", 2, 23);
         Check.seeFault("place stop;", 2, 6);
         Check.seeFault("stuff a costs 3 sets 3;", 2, 8);
         Check.seeFault("stuff a sets 3 stock 3;", 2, 15);
@@ -344,6 +348,8 @@ public final class PromisesTest {
         Check.feastsFault("when firm big 3 > ;", 2, 14);
         Check.feastsFault("when stands big any;", 2, 16);
         Check.feastsFault("when big;", 2, 5);
+        Check.feastsFault("when;end;", 2, 4);
+        Check.feastsFault("when stands;end;", 2, 11);
         Check.feastsFault("when loop 3;", 2, 5);
         Check.feastsFault("stop 3;", 2, 5);
         Check.feastsFault("heat;", 2, 4);
@@ -886,7 +892,10 @@ public final class PromisesTest {
         Check.due("heat 0", x, x.fits(1, 0, 1), -1, 5);
         x.write(0, 0, 3);
         x.write(0, 1, 4);
+        Check.due("heat 0 of the second two", x, x.fits(1, 0, 2), -1, 5);
         x.write(0, 2, 5);
+        x.write(0, 3, -1);
+        Check.due("minutes of the second two", x, x.fits(1, 0, 2), -1, 5);
         x.write(0, 3, 3);
         // By agar, milk, leaf: 18 13 21 8 16 24 3 11 19 27, of height 4.
         Check.due("all", x, x.fits(1, 0, 0), 10, 0);
@@ -926,6 +935,17 @@ public final class PromisesTest {
         Check.due("31 twos", x, x.fits(1, 1, 31), -1, 4);
         x.write(1, 0, (1L << 32) + 1);
         Check.due("a great heat", x, x.fits(1, 1, 1), -1, 5);
+        x = Check.ofSee("stuff s sets 9 costs 9 stock 0;place p;mould m high 1 holds 9 at p;");
+        x.tray(0, 0, 4);
+        x.write(0, 0, 9);
+        x.write(0, 1, 9);
+        x.write(0, 2, 1);
+        x.write(0, 3, 81);
+        Check.due("81", x, x.fits(0, 0, 2), 1, 0);
+        Check.due("81", x, x.fitsBy(0, 0, 2, 0), 81, 0);
+        Check.due("81", x, x.fitsBy(0, 0, 2, 1), 81, 0);
+        x.write(0, 3, 80);
+        Check.due("81 does not", x, x.fits(0, 0, 2), 0, 0);
     }
 
     private static void ask() {
@@ -1227,6 +1247,7 @@ public final class PromisesTest {
             x.back();
         }
         int missed = x.lived(0);
+        Check.due("the last seed", x, x.mean(9999, 1), true, 0);
         Check.due("mean", x, x.mean(9980, 20), true, 0);
         int divisor = java.math.BigInteger.valueOf(sum).gcd(java.math.BigInteger.valueOf(20)).intValue();
         Check.fraction("mean", x, sum / divisor, 20 / divisor);
