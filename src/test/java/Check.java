@@ -41,6 +41,13 @@ final class Check {
         due(what, x, got ? 1 : 0, want ? 1 : 0, status);
     }
 
+    /** NONE or false, and the STATUS that tells why. */
+    static void refused(String what, JellyCathedral x, Object got, int status) {
+        boolean none = got instanceof Boolean b ? !b : ((Number) got).longValue() == JellyCathedral.NONE;
+        due(what + " gives NONE or false", true, none);
+        due(what + " status", status, x.status());
+    }
+
     static void fraction(String what, JellyCathedral x, long top, long bottom) {
         due(what + " top", top, x.top());
         due(what + " bottom", bottom, x.bottom());
