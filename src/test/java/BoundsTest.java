@@ -428,6 +428,12 @@ public final class BoundsTest {
         x.tray(0, 0, 2);
         Check.due("just enough", x, x.copyFirm(0), 2, 0);
         row("of both", x, 0, 0, 6);
+        x.tray(0, 0, 4);
+        x.write(0, 0, 7);
+        x.write(0, 2, 7);
+        x.write(0, 3, 7);
+        Check.due("more than enough", x, x.copyFirm(0), 2, 0);
+        row("the rest stays", x, 0, 0, 6, 7, 7);
         x = new JellyCathedral();
         x.tray(0, 0, 0);
         Check.due("of no MOULDS", x, x.copyFirm(0), 0, 0);
@@ -458,6 +464,7 @@ public final class BoundsTest {
         Check.due("parts", x, x.pour(1, 0, 8), 8, 0);
         Check.refused("one more than is left", x, x.pour(1, 0, 2), 9);
         Check.due("what is left", x, x.pour(1, 0, 1), 9, 0);
+        Check.due("all nine of them", x, x.part(1, 0), 9, 0);
         Check.due("SPENT", 297 + 9 * 99, x.many(6));
         x = setting(30, 17);
         Check.due("firm", 17, x.mould(0, 4));
@@ -869,11 +876,12 @@ public final class BoundsTest {
             + "mould n high 1 holds 1 at p;");
         // Nine of b there are not.
         Check.due("0", x, x.mix(0, 0), 7 + 8 * 2, 0);
-        for (int k = 1; k <= 81; k++) {
-            int a = (k + 8) / 9;
-            Check.due("k " + k, x, x.mix(0, k), 7 * a + 2 * (9 - a), 0);
-            Check.due("parts of a, k " + k, x, x.mixPart(0, k, 0), a, 0);
-            Check.due("parts of b, k " + k, x, x.mixPart(0, k, 1), 9 - a, 0);
+        for (int a = 1; a <= 9; a++) {
+            for (int k : new int[] {9 * a - 8, 9 * a - 4, 9 * a}) {
+                Check.due("k " + k, x, x.mix(0, k), 7 * a + 2 * (9 - a), 0);
+                Check.due("parts of a, k " + k, x, x.mixPart(0, k, 0), a, 0);
+                Check.due("parts of b, k " + k, x, x.mixPart(0, k, 1), 9 - a, 0);
+            }
         }
         Check.refused("82", x, x.mix(0, 82), 5);
         Check.refused("-1", x, x.mix(0, -1), 5);

@@ -87,9 +87,11 @@ public final class RefusalsTest {
         seenThings(x, all);
         for (int t = 0; t < 4; t++) {
             for (int p = 0; p <= 60; p++) {
-                all.add(x.read(t, p));
-                all.add(x.status());
-                if (x.status() != 0) {
+                long number = x.read(t, p);
+                int status = number == -1 ? x.status() : 0;
+                all.add(number);
+                all.add(status);
+                if (status != 0) {
                     break;
                 }
             }
@@ -628,7 +630,7 @@ public final class RefusalsTest {
         Check.due("0 else", 0, x.status());
     }
 
-    // ---- any arguments in any state
+    // ---- any arguments in any state, and after more calls than an object is used for
 
     private static void neverThrows() {
         int[] odd = {LEAST, -1, 0, 1, 2, 4, 5, 60, MOST};
